@@ -614,12 +614,9 @@ public final class MagpieRuns {
             return !anyBeyond(pieces, OFF);
         }
 
-        static boolean blocks(long theirs, int way) {
-            return on(theirs, ACROSS - way) >= 2;
-        }
-
-        static boolean isBlot(long theirs, int way) {
-            return on(theirs, ACROSS - way) == 1;
+        /** How many pieces the other player has on the point from which this one has this way. */
+        static int across(long theirs, int way) {
+            return (int) (theirs >>> (3 * (ACROSS - way))) & 7;
         }
 
         static int sumOfWays(long pieces) {
@@ -670,7 +667,7 @@ public final class MagpieRuns {
                 return BAR_FIRST;
             }
             if (die < way) {
-                return Pieces.blocks(theirs, way - die) ? BLOCKED : 0;
+                return Pieces.across(theirs, way - die) >= 2 ? BLOCKED : 0;
             }
             boolean tooGreat = die > way && Pieces.anyBeyond(mine, way);
             return tooGreat || Pieces.anyBeyond(mine, Pieces.LONGEST_AT_HOME) ? NOT_OFF_YET : 0;
@@ -681,7 +678,7 @@ public final class MagpieRuns {
         }
 
         static long theirsBehind(long theirs, int way, int die) {
-            if (die >= way || !Pieces.isBlot(theirs, way - die)) {
+            if (die >= way || Pieces.across(theirs, way - die) != 1) {
                 return theirs;
             }
             return Pieces.moved(theirs, Pieces.ACROSS - (way - die), Pieces.BAR);
@@ -750,7 +747,7 @@ public final class MagpieRuns {
 
     /** Positions of which no two are alike: the pieces of both, and the dice that are left. */
     private static final class Positions {
-        // Four alike dice on six pieces lead to at most 126 positions, two dice to fewer.
+        // Four steps by alike dice go to six pieces in at most 126 ways; two dice lead to fewer.
         private static final int MOST = 128;
 
         private final long[] mine = new long[MOST];
@@ -772,6 +769,10 @@ public final class MagpieRuns {
 
         int diceAt(int number) {
             return isIn(number) ? dice[number] : 0;
+        }
+
+        void clear() {
+            size = 0;
         }
 
         void add(long ownPieces, long otherPieces, int diceLeft) {
@@ -797,14 +798,14 @@ public final class MagpieRuns {
 
         /** In order, a die is used ahead of its turn only if no step with the next one is possible. */
         int countEnds(long mine, long theirs, int dice, boolean inOrder) {
-            ends.size = 0;
-            current.size = 0;
+            ends.clear();
+            current.clear();
             current.add(mine, theirs, dice);
             if (inOrder) {
                 current.add(mine, theirs, Dice.turned(dice));
             }
             for (int steps = 0; steps <= Dice.MOST; steps++) {
-                following.size = 0;
+                following.clear();
                 int size = current.size;
                 for (int i = 0; i < size; i++) {
                     goOn(current.mineAt(i), current.theirsAt(i), current.diceAt(i), inOrder);
@@ -877,7 +878,7 @@ public final class MagpieRuns {
                 if (way == target) {
                     return true;
                 }
-                if (Pieces.blocks(theirs, way)) {
+                if (Pieces.across(theirs, way) >= 2) {
                     return false;
                 }
                 pieces = Pieces.moved(pieces, Pieces.BAR, way);
@@ -898,7 +899,7 @@ public final class MagpieRuns {
                 if (way == target) {
                     return true;
                 }
-                if (way < target || Pieces.blocks(theirs, way)) {
+                if (way < target || Pieces.across(theirs, way) >= 2) {
                     return false;
                 }
             }
@@ -908,7 +909,7 @@ public final class MagpieRuns {
         static int rollsThatEnter(long theirs) {
             int closed = 0;
             for (int die = 1; die <= 6; die++) {
-                closed += Pieces.blocks(theirs, Pieces.BAR - die) ? 1 : 0;
+                closed += Pieces.across(theirs, Pieces.BAR - die) >= 2 ? 1 : 0;
             }
             return 36 - closed * closed;
         }
@@ -1118,11 +1119,10 @@ public final class MagpieRuns {
             return phase == OVER;
         }
 
-        /** The winner is always the mover, so that the other one begins. */
+        /** The winner is always the mover, so that the other one begins; dice were cleared then. */
         void doNewGame() {
             mover = 1 - mover;
             phase = ROLL;
-            dice = 0;
             stake = 1;
             cube = -1;
             pieces0 = Pieces.START;
