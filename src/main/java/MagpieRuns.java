@@ -894,7 +894,7 @@ public final class MagpieRuns {
 
         private static boolean walksInto(int start, long theirs, int target, int dice) {
             int way = start;
-            for (int i = 0; i < Dice.count(dice); i++) {
+            for (int i = 0; i < Dice.MOST && Dice.at(dice, i) != 0; i++) {
                 way -= Dice.at(dice, i);
                 if (way == target) {
                     return true;
