@@ -564,7 +564,7 @@ public final class MagpieRuns {
         }
 
         static boolean has(int dice, int die) {
-            return at(dice, 0) == die || at(dice, 1) == die;
+            return (dice & 7) == die || ((dice >>> 3) & 7) == die;
         }
 
         /** The dice without the first one that shows this number. */
