@@ -5,7 +5,11 @@ final class Boards {
 
     /** A new object with the six pieces of each player at these places. */
     static MagpieRuns with(int[] places0, int[] places1) {
-        MagpieRuns x = new MagpieRuns();
+        return fill(new MagpieRuns(), places0, places1);
+    }
+
+    /** Carries the pieces of a game at its beginning to these places. */
+    static MagpieRuns fill(MagpieRuns x, int[] places0, int[] places1) {
         int[] begin0 = {0, 0, 4, 4, 7, 7};
         int[] begin1 = {15, 15, 11, 11, 8, 8};
         for (int i = 0; i < 6; i++) {
@@ -35,5 +39,25 @@ final class Boards {
     static int play(MagpieRuns x, String text) {
         x.clearBuffer();
         return write(x, text).play();
+    }
+
+    /** Rolls, makes steps as long as there are some, and ends the turn. */
+    static void passTurn(MagpieRuns x) {
+        x.roll(2, 1);
+        while (x.possibleSteps() > 0) {
+            stepAnywhere(x);
+        }
+        x.endTurn();
+    }
+
+    private static void stepAnywhere(MagpieRuns x) {
+        for (int from = -1; from < 16; from++) {
+            for (int die = 1; die <= 2; die++) {
+                if (x.whyNoStep(from, die) == 0) {
+                    x.step(from, die);
+                    return;
+                }
+            }
+        }
     }
 }

@@ -16,31 +16,13 @@ public final class PastTest {
         check.end("PastTest");
     }
 
-    /** All that undo and the snapshot bring back, as a text. */
-    private static String picture(MagpieRuns x) {
-        StringBuilder text = new StringBuilder();
-        text.append(x.mover()).append(' ').append(x.phase()).append(' ').append(x.stake());
-        text.append(' ').append(x.cubeOf()).append(" dice");
-        for (int i = 0; i < x.diceLeft(); i++) {
-            text.append(' ').append(x.dieLeft(i));
-        }
-        for (int player = 0; player < 2; player++) {
-            text.append(" player ").append(x.onBar(player)).append(' ').append(x.borneOff(player));
-            text.append(' ').append(x.score(player)).append(' ').append(x.hits(player)).append(" on");
-            for (int point = 0; point < 16; point++) {
-                text.append(' ').append(x.piecesOn(player, point));
-            }
-        }
-        return text.append(" stop ").append(x.hasStopped() ? x.stoppedPart() : -1).toString();
-    }
-
     private static void undone(String call, MagpieRuns x, Supplier<Object> made) {
-        String before = picture(x);
+        String before = Whole.state(x);
         int saved = x.savedStates();
         made.get();
         check.is(call + " saves a state", x.savedStates(), Math.min(5, saved + 1));
         check.is("undo of " + call, x.undo(), Math.min(4, saved));
-        check.is("the state behind undo of " + call, picture(x), before);
+        check.is("the state behind undo of " + call, Whole.state(x), before);
         made.get();
     }
 
@@ -131,7 +113,7 @@ public final class PastTest {
         MagpieRuns x = new MagpieRuns();
         check.raises("restore without a snapshot", x, Check.STATE, x::restore);
         check.is("keep()", x.keep(), 0);
-        String begin = picture(x);
+        String begin = Whole.state(x);
         x.roll(2, 1);
         x.step(0, 2);
         x.step(0, 1);
@@ -140,10 +122,10 @@ public final class PastTest {
         x.drop();
         check.is("score(1)", x.score(1), 1);
         check.is("restore()", x.restore(), 0);
-        check.is("the state of the snapshot", picture(x), begin);
+        check.is("the state of the snapshot", Whole.state(x), begin);
         x.roll(6, 6);
         check.is("restore() again", x.restore(), 0);
-        check.is("the snapshot stays", picture(x), begin);
+        check.is("the snapshot stays", Whole.state(x), begin);
         check.is("savedStates", x.savedStates(), 5);
         x.undo();
         check.is("undo of restore", x.dieLeft(3), 6);

@@ -12,25 +12,6 @@ public final class StakeTest {
         check.end("StakeTest");
     }
 
-    private static void passTurn(MagpieRuns x) {
-        x.roll(2, 1);
-        while (x.possibleSteps() > 0) {
-            stepAnywhere(x);
-        }
-        x.endTurn();
-    }
-
-    private static void stepAnywhere(MagpieRuns x) {
-        for (int from = -1; from < 16; from++) {
-            for (int die = 1; die <= 2; die++) {
-                if (x.whyNoStep(from, die) == 0) {
-                    x.step(from, die);
-                    return;
-                }
-            }
-        }
-    }
-
     private static void offerAndTake() {
         MagpieRuns x = new MagpieRuns();
         check.is("offer()", x.offer(), 2);
@@ -75,7 +56,7 @@ public final class StakeTest {
         for (int stake = 2; stake <= 64; stake *= 2) {
             check.is("offer of " + stake, x.offer(), stake);
             check.is("take of " + stake, x.take(), stake);
-            passTurn(x);
+            Boards.passTurn(x);
         }
         check.is("cube at the mover", x.cubeOf(), x.mover());
         check.raises("offer at a stake of 64", x, Check.STATE, x::offer);
@@ -95,7 +76,7 @@ public final class StakeTest {
         check.is("undo of drop", x.score(0), 0);
         check.is("phase", x.phase(), 2);
         x.take();
-        passTurn(x);
+        Boards.passTurn(x);
         x.offer();
         check.is("drop of the stake as it was", x.drop(), 2);
         check.is("score(1)", x.score(1), 2);
@@ -103,7 +84,7 @@ public final class StakeTest {
         x.offer();
         check.is("drop in the next game", x.drop(), 1);
         x.newGame();
-        passTurn(x);
+        Boards.passTurn(x);
         x.offer();
         check.is("scores are added", x.drop(), 2);
     }
