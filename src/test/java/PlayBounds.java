@@ -107,6 +107,7 @@ final class PlayBounds {
             plays(side, Boards.at(0, 5, OFF, OFF, OFF, OFF), FAR, 1, 1, 5);
             plays(side, Boards.at(15, 15, OFF, OFF, OFF, OFF), Boards.at(0, 0, 1, 1, 2, 2), 1, 1, 1);
             plays(side, Boards.at(14, 15, OFF, OFF, OFF, OFF), Boards.at(0, 0, 1, 1, 2, 2), 1, 2, 2);
+            plays(side, Boards.at(12, 15, OFF, OFF, OFF, OFF), Boards.at(0, 0, 1, 1, 2, 2), 1, 2, 2);
         }
     }
 

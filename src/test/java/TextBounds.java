@@ -357,6 +357,8 @@ final class TextBounds {
             MagpieRuns bar = Boards.with(Boards.at(-1, 4, 4, 7, 7, 7), Boards.at(15, 15, 11, 11, 8, 8));
             check.is("from the bar by " + die, Boards.play(bar, "r" + die + die + ";b." + die), 2);
             check.is("onBar", bar.onBar(0), 0);
+            check.is("the turn goes on", bar.mover() * 10 + bar.phase(), 1);
+            check.is("dice left", bar.diceLeft(), 3);
             check.is("entered", bar.piecesOn(0, die - 1) > (die == 5 ? 2 : 0), true);
         }
         for (int point = 0; point <= 15; point++) {
